@@ -928,18 +928,8 @@ public final class SpiceQuay {
 
         private void single(int depth) {
             switch (seen()) {
-                case Kind.NOT:
-                    if (goesDeeper(Kind.NOT, depth)) {
-                        single(depth + 1);
-                        draft.steps.add(Kind.NOT, 0, 0);
-                    }
-                    break;
-                case Kind.OPEN_TEST:
-                    if (goesDeeper(Kind.OPEN_TEST, depth)) {
-                        test(depth + 1);
-                        take(Kind.CLOSE_TEST);
-                    }
-                    break;
+                case Kind.NOT: turnedTest(depth); break;
+                case Kind.OPEN_TEST: testInBrackets(depth); break;
                 case Kind.OWNS:
                     next++;
                     int owner = takeName(merchants);
@@ -950,6 +940,20 @@ public final class SpiceQuay {
                     int kind = takeComparison();
                     sum(depth);
                     draft.steps.add(kind, 0, 0);
+            }
+        }
+
+        private void turnedTest(int depth) {
+            if (goesDeeper(Kind.NOT, depth)) {
+                single(depth + 1);
+                draft.steps.add(Kind.NOT, 0, 0);
+            }
+        }
+
+        private void testInBrackets(int depth) {
+            if (goesDeeper(Kind.OPEN_TEST, depth)) {
+                test(depth + 1);
+                take(Kind.CLOSE_TEST);
             }
         }
 
@@ -1002,31 +1006,36 @@ public final class SpiceQuay {
                     int debtor = takeName(merchants);
                     draft.steps.add(kind, debtor, takeName(merchants));
                     break;
-                case Kind.MINUS:
-                    if (goesDeeper(kind, depth)) {
-                        value(depth + 1);
-                        draft.steps.add(Kind.NEGATE, 0, 0);
-                    }
-                    break;
-                case Kind.OPEN:
-                    if (goesDeeper(kind, depth)) {
-                        sum(depth + 1);
-                        take(Kind.CLOSE);
-                    }
-                    break;
+                case Kind.MINUS: turnedValue(depth); break;
+                case Kind.OPEN: sumInBrackets(depth); break;
                 case Kind.MIN:
-                case Kind.MAX:
-                    next++;
-                    if (goesDeeper(Kind.OPEN, depth)) {
-                        sum(depth + 1);
-                        take(Kind.COMMA);
-                        sum(depth + 1);
-                        take(Kind.CLOSE);
-                        draft.steps.add(kind, 0, 0);
-                    }
-                    break;
-                default:
-                    fail();
+                case Kind.MAX: oneOfTwoSums(kind, depth); break;
+                default: fail();
+            }
+        }
+
+        private void turnedValue(int depth) {
+            if (goesDeeper(Kind.MINUS, depth)) {
+                value(depth + 1);
+                draft.steps.add(Kind.NEGATE, 0, 0);
+            }
+        }
+
+        private void sumInBrackets(int depth) {
+            if (goesDeeper(Kind.OPEN, depth)) {
+                sum(depth + 1);
+                take(Kind.CLOSE);
+            }
+        }
+
+        private void oneOfTwoSums(int kind, int depth) {
+            next++;
+            if (goesDeeper(Kind.OPEN, depth)) {
+                sum(depth + 1);
+                take(Kind.COMMA);
+                sum(depth + 1);
+                take(Kind.CLOSE);
+                draft.steps.add(kind, 0, 0);
             }
         }
 
@@ -1207,7 +1216,6 @@ public final class SpiceQuay {
          * less then; so all ways can be looked at for the widest, in the place of rings alone.
          */
         int widestRing(int merchant) {
-            reached.fill(0);
             for (int b = 0; b < SIDE; b++) {
                 reached.set(b, between(merchant, b));
             }

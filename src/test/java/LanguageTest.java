@@ -10,6 +10,7 @@ public final class LanguageTest {
         trim();
         teach();
         tokens();
+        bytesBehindTheEnd();
         grammar();
         depth();
         manyTokens();
@@ -111,12 +112,37 @@ public final class LanguageTest {
         Due.error(TEST + "1<>2;", 1, TEST.length() + 2);
         Due.error(TEST + "1==2;", 1, TEST.length() + 2);
         Due.error(TEST + "1<", 1, TEST.length() + 2);
+        Due.error(TEST + "1<=", 1, TEST.length() + 3);
+        Due.error(TEST + "1>=", 1, TEST.length() + 3);
         for (String word : ("spice loss guild fee bias merchant coins credit lot of sacks for weigh by sell to"
                 + " pay sum when day damp weight chop age debts owes owns not and or min max").split(" ")) {
             Due.error("spice " + word + " loss 5;", 1, 6);
             Due.error("spice " + word + "1 loss 5;", 0, -1);
             Due.error("spice x" + word + " loss 5;", 0, -1);
         }
+    }
+
+    /** What was cut off the tape is no part of it any more. */
+    private static void bytesBehindTheEnd() {
+        cut("spice s loss 5;", "     ", 0, -1);
+        cut("spice s loss 5;", "spice", 0, -1);
+        cut("spice s loss 5", ";    ", 1, 14);
+        cut("spice s loss 5", "5;   ", 1, 14);
+        cut("spice s loss 123456", "7;   ", 1, 19);
+        cut("spice abcdefghij", "k    ", 1, 16);
+        cut("spice s", "     ", 1, 7);
+        cut("spice s ", "     ", 1, 8);
+        cut(TEST + "1<", "=2;  ", 1, TEST.length() + 2);
+        cut(TEST + "1=2 and 1>", "=2;  ", 1, TEST.length() + 10);
+        cut(TEST + "1<2<", "=    ", 1, TEST.length() + 3);
+    }
+
+    private static void cut(String text, String rest, int error, int place) {
+        SpiceQuay quay = new SpiceQuay();
+        Due.tape(quay, text + rest);
+        quay.trim(text.length());
+        Due.is("teach of <" + text + "> without <" + rest + ">", quay.teach(), error);
+        Due.is("errorAt of <" + text + "> without <" + rest + ">", quay.errorAt(), place);
     }
 
     private static void grammar() {

@@ -17,6 +17,7 @@ public final class ShownTest {
         ageOfChop();
         chain();
         ring();
+        ringBackwards();
         Due.end();
     }
 
@@ -175,6 +176,18 @@ public final class ShownTest {
         owe(quay, 5, 4, 500);
         Due.is("beside it", quay.ring(0), 45);
         Due.is("at 4", quay.ring(4), 30);
+    }
+
+    /** The numbers of the merchants go down along it. */
+    private static void ringBackwards() {
+        SpiceQuay quay = six();
+        for (int i = 0; i < 6; i++) {
+            owe(quay, i, (i + 5) % 6, 10 + i);
+        }
+        for (int i = 0; i < 6; i++) {
+            Due.is("of all six backwards, at " + i, quay.ring(i), 10);
+            Due.is("chain backwards from " + i, quay.chain(i, (i + 1) % 6), 5);
+        }
     }
 
     private static void counts(SpiceQuay quay, int... want) {
