@@ -55,6 +55,27 @@ final class Due {
         fails(what, IllegalStateException.class, call);
     }
 
+    /** As fails, and all that is told, the tape's length and the error's place are the same behind it. */
+    static void refuses(SpiceQuay quay, String what, Class<? extends RuntimeException> want, Call call) {
+        long digest = quay.digest();
+        int place = quay.errorAt();
+        fails(what, want, call);
+        is(what + ": the digest behind it", quay.digest(), digest);
+        is(what + ": errorAt behind it", quay.errorAt(), place);
+    }
+
+    static void refusesArgument(SpiceQuay quay, String what, Call call) {
+        refuses(quay, what, IllegalArgumentException.class, call);
+    }
+
+    static void refusesIndex(SpiceQuay quay, String what, Call call) {
+        refuses(quay, what, IndexOutOfBoundsException.class, call);
+    }
+
+    static void refusesState(SpiceQuay quay, String what, Call call) {
+        refuses(quay, what, IllegalStateException.class, call);
+    }
+
     static void end() {
         System.out.println(looked + " answers looked at, " + wrong + " not as due");
         if (wrong != 0) {
@@ -92,6 +113,25 @@ final class Due {
         SpiceQuay quay = new SpiceQuay();
         is("teach of " + text, teach(quay, text), 0);
         return quay;
+    }
+
+    /** A list that tells as many of each sort, and as many orders, as there may be. */
+    static String fullList() {
+        StringBuilder text = new StringBuilder();
+        for (int i = 0; i < 4; i++) {
+            text.append("spice s" + i + " loss " + 3 * i + ";guild g" + i + " fee " + 33 * i + " bias " + 5 * i + ";");
+        }
+        for (int i = 0; i < 6; i++) {
+            text.append("merchant m" + i + " coins 9999 credit 9999;");
+        }
+        for (int i = 0; i < 10; i++) {
+            text.append("lot l" + i + " of s" + i % 4 + " sacks 90 for m" + i % 6 + ";");
+        }
+        for (int i = 0; i < 8; i++) {
+            text.append("weigh l" + i + " by g" + i % 4 + ";sell l" + i + " to m" + (i + 2) % 6 + " sum 50;"
+                    + "pay m" + i % 6 + " to m" + (i + 1) % 6 + " sum 9;");
+        }
+        return text.toString();
     }
 
     /** A new quay answers this list with this error at this place. */
