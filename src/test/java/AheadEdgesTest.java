@@ -1,6 +1,6 @@
 import java.math.BigInteger;
 
-/** The edges of promises 19 to 24, what would be; each test bears its sentence. */
+/** The edges of promises 19 to 24, what would be; each test bears its sentence, or belongs to the one ahead of it. */
 public final class AheadEdgesTest {
     /** Orders that need what was weighed, lent and sold some days ahead of them. */
     private static final String QUAY = "spice s loss 5;guild g fee 2 bias 10;merchant m coins 400 credit 500;"
@@ -13,6 +13,7 @@ public final class AheadEdgesTest {
         whatIsForeseen();
         foreseeFirstNamed();
         foreseenAsItComes();
+        foreseenWithoutChop();
         foreseenOfNothing();
         costsOfEachDamp();
         daysOfCosts();
@@ -104,6 +105,19 @@ public final class AheadEdgesTest {
         for (int days = 1; days <= 6; days++) {
             Due.is("sold behind " + days, quay.foresee(days, 10), sold[days - 1]);
         }
+    }
+
+    /** A lot without a chop can't be sold in the days ahead either, be it a new or a dried one. */
+    private static void foreseenWithoutChop() {
+        SpiceQuay quay = Due.quay("spice s loss 0;guild g fee 0 bias 0;merchant m coins 0 credit 0;merchant n coins 9 credit 0;"
+                + "lot l of s sacks 1 for m;weigh l by g when day = 2;sell l to n sum 1 when day < 2 or day = 4;");
+        Due.is("not on days 0 to 3", quay.foresee(4, 10), 0);
+        Due.is("on day 4", quay.foresee(5, 10), 1);
+        quay.pass(3);
+        Due.is("on day 4, by the chop of day 2", quay.foresee(2, 10), 1);
+        quay.dry(0);
+        Due.is("not without it", quay.foresee(2, 10), 0);
+        Due.is("nobody is richer", quay.richest(2), 1);
     }
 
     private static void foreseenOfNothing() {

@@ -1,4 +1,4 @@
-/** The edges of section 2, the quay, and of promise 18; each test bears its sentence. */
+/** The edges of section 2, the quay, and of promise 18; each test bears its sentence, or belongs to the one ahead of it. */
 public final class DayEdgesTest {
     private static final String QUAY = "spice s loss 0;guild g fee 0 bias 0;merchant m coins 40 credit 500;"
             + "merchant n coins 30 credit 500;lot l of s sacks 4 for m;";
@@ -42,6 +42,8 @@ public final class DayEdgesTest {
         valuesAtFirst();
         valuesOnADay();
         sidesOfTests();
+        longestSum();
+        longestTest();
         Due.end();
     }
 
@@ -642,5 +644,33 @@ public final class DayEdgesTest {
             holds("not " + a + " or " + b + " and not " + c, !x || y && !z);
             holds("not [" + a + " and " + b + "] or " + c, !(x && y) || z);
         }
+    }
+
+    /** A sum in a list of 400 tokens, the most that there can be: 44, and two for each further 1. */
+    private static void longestSum() {
+        String ones = QUAY + "weigh l by g when 1" + "+1".repeat(178);
+        Due.is("179 of them", Due.quay(ones + "=179;").order(0, 3), 1);
+        Due.is("not 178", Due.quay(ones + "=178;").order(0, 3), 0);
+        String less = QUAY + "weigh l by g when 1" + "-1".repeat(178);
+        Due.is("1 less 178", Due.quay(less + "<0;").order(0, 3), 1);
+        String doubled = QUAY + "weigh l by g when 1" + "*2".repeat(31);
+        Due.is("31 times doubled", Due.quay(doubled + "=" + MIN + ";").order(0, 3), 1);
+        Due.is("32 times doubled", Due.quay(doubled + "*2=0;").order(0, 3), 1);
+        String halved = QUAY + "weigh l by g when " + MAX + "/1" + "/2".repeat(100);
+        Due.is("485794 halved to nothing", Due.quay(halved + "=999999*2147;").order(0, 3), 1);
+        String nested = QUAY + "weigh l by g when " + "max(1,1+".repeat(8) + "1" + ")".repeat(8);
+        Due.is("nested to the depth 8", Due.quay(nested + "=9;").order(0, 3), 1);
+    }
+
+    /** The same of a test: 44, and four for each further comparison. */
+    private static void longestTest() {
+        String all = QUAY + "weigh l by g when 1=1" + " and 1=1".repeat(88);
+        Due.is("all hold", Due.quay(all + " and 1=1;").order(0, 3), 1);
+        Due.is("all but the last one hold", Due.quay(all + " and 1=2;").order(0, 3), 0);
+        String none = QUAY + "weigh l by g when 1=2" + " or 1=2".repeat(88);
+        Due.is("none holds", Due.quay(none + " or 1=2;").order(0, 3), 0);
+        Due.is("the last one holds", Due.quay(none + " or 1=1;").order(0, 3), 1);
+        Due.is("the first one doesn't", Due.quay(all.replaceFirst("1=1", "1=2") + ";").order(0, 3), 0);
+        Due.is("the first one does", Due.quay(none.replaceFirst("1=2", "1=1") + ";").order(0, 3), 1);
     }
 }

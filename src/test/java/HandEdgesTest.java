@@ -1,4 +1,4 @@
-/** The edges of promises 14 to 17, by hand; each test bears its sentence. */
+/** The edges of promises 14 to 17, by hand; each test bears its sentence, or belongs to the one ahead of it. */
 public final class HandEdgesTest {
     private static final int[] FAR = {-1, -2, Integer.MIN_VALUE, Integer.MAX_VALUE};
 

@@ -1,4 +1,4 @@
-/** The edges of section 1, the language, and with it of what teach() answers; each test bears its sentence. */
+/** The edges of section 1, the language, and with it of what teach() answers; each test bears its sentence, or belongs to the one ahead of it. */
 public final class ListEdgesTest {
     private static final String QUAY = "spice s loss 5;guild g fee 2 bias 10;merchant m coins 9 credit 8;"
             + "lot l of s sacks 3 for m;";

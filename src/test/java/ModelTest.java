@@ -5,7 +5,7 @@ import java.util.Random;
 
 /** Random lists and calls, answered by the quay and by a slow model that is built another way. */
 public final class ModelTest {
-    private static final int ROUNDS = 500;
+    private static final int ROUNDS = 700;
     private static final int[] TAUGHT = new int[6];
 
     public static void main(String[] args) {
@@ -13,7 +13,8 @@ public final class ModelTest {
             Random random = new Random(round);
             SpiceQuay quay = new SpiceQuay();
             Model model = new Model();
-            for (int list = 0; list < 3; list++) {
+            // an object is used for at most 512 calls
+            for (int list = 0; list < 2; list++) {
                 teachBoth("round " + round, random, quay, model);
                 for (int call = 0; call < 25; call++) {
                     callBoth("round " + round + " call " + call, random, quay, model);
@@ -25,6 +26,7 @@ public final class ModelTest {
             Random random = new Random(-1 - round);
             teachBoth("list " + round, random, new SpiceQuay(), new Model());
         }
+        everyTokenInEachPlace();
         for (int error = 0; error <= 5; error++) {
             System.out.println(TAUGHT[error] + " lists with the answer " + error);
             Due.is("enough lists with the answer " + error, TAUGHT[error] >= 100 ? 1 : 0, 1);
@@ -32,8 +34,30 @@ public final class ModelTest {
         Due.end();
     }
 
+    /** In a list with each sort of line, each token is left out, and each other one put in its place and ahead of it. */
+    private static void everyTokenInEachPlace() {
+        String list = "spice s loss 5 ; guild g fee 2 bias 1 ; merchant m coins 9 credit 8 ; lot l of s sacks 3 for m ;"
+                + " weigh l by g when not [ owns m l or 1 < 2 ] and ( day ) >= min ( 4 , damp ) ;"
+                + " sell l to m sum - 6 + weight l * owes m m / 7 ; pay m to m sum coins m - max ( 1 , debts m ) when age l = chop l ;";
+        String[] tokens = list.split(" ");
+        List<String> others = new ArrayList<>(Model.KEYWORDS);
+        others.addAll(List.of("(", ")", "[", "]", ";", ",", "+", "-", "*", "/", "<", ">", "=", "<=", ">=", "s", "x", "0", "1234567",
+                "abcdefghijk", "?", ""));
+        for (int i = 0; i < tokens.length; i++) {
+            String ahead = String.join(" ", Arrays.copyOf(tokens, i)) + " ";
+            String behind = " " + String.join(" ", Arrays.copyOfRange(tokens, i + 1, tokens.length));
+            for (String other : others) {
+                teachBoth("in the place of token " + i, ahead + other + behind, new SpiceQuay(), new Model());
+                teachBoth("ahead of token " + i, ahead + other + " " + tokens[i] + behind, new SpiceQuay(), new Model());
+            }
+        }
+    }
+
     private static void teachBoth(String where, Random random, SpiceQuay quay, Model model) {
-        String text = new ListWriter(random).write();
+        teachBoth(where, new ListWriter(random).write(), quay, model);
+    }
+
+    private static void teachBoth(String where, String text, SpiceQuay quay, Model model) {
         int[] want = model.teach(text);
         int got = Due.teach(quay, text);
         TAUGHT[want[0]]++;

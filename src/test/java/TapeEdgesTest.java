@@ -1,4 +1,4 @@
-/** The edges of promises 1, 2, 3 and 5, and of what section 1 says of the tape; each test bears its sentence. */
+/** The edges of promises 1, 2, 3 and 5, and of what section 1 says of the tape; each test bears its sentence, or belongs to the one ahead of it. */
 public final class TapeEdgesTest {
     private static final String LINE = "spice s loss 5;";
     private static final int BLANKS = 0x20202020;

@@ -1,4 +1,4 @@
-/** The edges of promise 4: what another list takes the place of, and what stays; each test bears its sentence. */
+/** The edges of promise 4: what another list takes the place of, and what stays; each test bears its sentence, or belongs to the one ahead of it. */
 public final class TeachEdgesTest {
     private static final String QUAY = "spice s loss 5;guild g fee 2 bias 10;merchant m coins 90 credit 80;"
             + "merchant n coins 9 credit 800;lot l of s sacks 3 for m;"
@@ -173,7 +173,7 @@ public final class TeachEdgesTest {
     /** Names, numbers of lots, sums and tests of one list are none of the next one. */
     private static void againAndAgain() {
         SpiceQuay quay = new SpiceQuay();
-        for (int i = 0; i < 40; i++) {
+        for (int i = 0; i < 30; i++) {
             String name = "x" + i % 3;
             String text = "spice " + name + " loss " + i % 10 + ";merchant " + name + " coins " + i + " credit 1;lot " + name + " of "
                     + name + " sacks 1 for " + name + ";guild " + name + " fee " + i + " bias 0;weigh " + name + " by " + name
