@@ -82,6 +82,10 @@ public final class TeachEdgesTest {
         for (int what = 0; what <= 13; what++) {
             Due.is("count " + what, quay.count(what), counts[what]);
         }
+        SpiceQuay first = new SpiceQuay();
+        first.pass(7);
+        Due.teach(first, QUAY);
+        Due.is("as if the smaller one were the first one", quay.digest(), first.digest());
         Due.refusesIndex(quay, "lot 1", () -> quay.lot(1, 0));
         Due.refusesIndex(quay, "merchant 2", () -> quay.merchant(2, 0));
         Due.refusesIndex(quay, "guild 1", () -> quay.guild(1, 0));
